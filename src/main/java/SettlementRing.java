@@ -973,7 +973,7 @@ public final class SettlementRing {
             for (int i = 0; i < securityCount; i++) {
                 worth += account.freeOf(i) * security(i).price;
             }
-            return account.line + Math.floorDiv(worth, 2L);
+            return account.line + worth / 2;
         }
 
         /** Whether an account is sound as it stands, perhaps in the midst of a trial. */

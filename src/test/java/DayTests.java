@@ -366,6 +366,26 @@ final class DayTests {
         Checks.same("entitledAnew", ring.entitledAnew(0, 1), 1);
     }
 
+    static void promise22_goesBackToADayOfEventsManyTimes() {
+        SettlementRing ring = four();
+        for (int i = 0; i < 3; i++) {
+            ring.announce(SettlementRing.DIVIDEND, 0, 1, 0, 0, 0, 0);
+        }
+        ring.keep();
+        for (int i = 1; i <= 12; i++) {
+            trade(ring, 0, 1, i, 0, 0);
+            ring.cycle();
+            ring.endDay();
+            trade(ring, 0, 2, i, 0, 1);
+            ring.cycle();
+            Checks.same("entitledAnew", ring.entitledAnew(0, 0), 100 - i);
+            Checks.same("entitledAnew", ring.entitledAnew(2, 1), i);
+            Checks.same("entitledAnew", ring.entitledAnew(2, 2), 0);
+            ring.goBack();
+            Checks.same("entitledAnew", ring.entitledAnew(2, 1), NONE);
+        }
+    }
+
     static void promise22_nothingIsKeptAtFirst() {
         SettlementRing ring = four();
         ring.endDay();

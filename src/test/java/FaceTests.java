@@ -179,6 +179,41 @@ final class FaceTests {
         }
     }
 
+    /** Makes every call that goes through rows or sets, on a ring with much in it. */
+    private static void makeDearCalls(SettlementRing ring) {
+        ring.keep();
+        ring.best();
+        ring.bestByAll();
+        ring.cycle();
+        ring.endDay();
+        ring.goBack();
+    }
+
+    static void rule12_callsMakeNoObjects() {
+        com.sun.management.ThreadMXBean threads =
+                (com.sun.management.ThreadMXBean) java.lang.management.ManagementFactory.getThreadMXBean();
+        SettlementRing ring = new SettlementRing();
+        for (int i = 0; i < 10; i++) {
+            ring.open(i % 3 == 0 ? -1 : 0, i % 2 == 0, i % 3, 100, 100);
+            ring.lend(i);
+        }
+        ring.issue(0, 0, 1000, 10, 100);
+        for (int i = 1; i < 21; i++) {
+            ring.instruct(i % 9, 9, true, 0, i, i, 0, 0, 1);
+            ring.instruct(9, i % 9, false, 0, i, i, 0, 0, 1);
+        }
+        for (int i = 0; i < 9; i++) {
+            ring.announce(i % 3, 0, 2, 1, 5, 0, 0);
+        }
+        makeDearCalls(ring);
+        long before = threads.getCurrentThreadAllocatedBytes();
+        for (int i = 0; i < 100; i++) {
+            makeDearCalls(ring);
+        }
+        long made = threads.getCurrentThreadAllocatedBytes() - before;
+        Checks.is("some bytes in 600 calls, not " + made, made < 2000);
+    }
+
     static void rule6_callsThrowWithAStatementOfTheClassAlone() {
         SettlementRing ring = new SettlementRing();
         int[] odd = {Integer.MIN_VALUE, -2, -1, 0, 1, 2, 10, 40, Integer.MAX_VALUE};

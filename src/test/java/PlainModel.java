@@ -185,6 +185,18 @@ public final class PlainModel {
             w.events.size()};
     }
 
+    /** The numbers of the events that can be elected for now. */
+    List<Integer> openOptions() {
+        List<Integer> open = new ArrayList<>();
+        for (int i = 0; i < w.events.size(); i++) {
+            Ev e = w.events.get(i);
+            if (e.kind == 2 && e.noted && !e.paid) {
+                open.add(i);
+            }
+        }
+        return open;
+    }
+
     // ---- the face
 
     public int open(int custodian, boolean isPooled, int country, int cash, int line) {

@@ -25,6 +25,8 @@ public final class RandomRuns {
     private final int accounts;
     private final int securities;
     private final boolean isLarge;
+    /** Of 100 steps how many give two instructions that fit. */
+    private final int instructing;
 
     RandomRuns(long seed) {
         random = new Random(seed);
@@ -33,6 +35,7 @@ public final class RandomRuns {
         mostPrice = isLarge ? 1000 : new int[] {1, 3, 10, 50, 1000}[random.nextInt(5)];
         mostCash = isLarge ? 1000000 : new int[] {10, 200, 3000, 50000}[random.nextInt(4)];
         accounts = 2 + random.nextInt(9);
+        instructing = 12 + random.nextInt(19);
         securities = 1 + random.nextInt(random.nextBoolean() ? 2 : 4);
     }
 
@@ -113,6 +116,9 @@ public final class RandomRuns {
     private void instructPair() {
         int giver = oneOf(ACCOUNTS);
         int taker = oneOf(ACCOUNTS);
+        if (giver == taker && random.nextInt(10) > 0) {
+            taker = giver > 0 ? giver - 1 : giver + 1;
+        }
         int security = oneOf(SECURITIES);
         int units = value(1, mostUnits);
         long worth = (long) units * mostPrice;
@@ -135,14 +141,15 @@ public final class RandomRuns {
     private void announce() {
         int kind = random.nextInt(40) == 0 ? value(0, 2) : random.nextInt(3);
         int record = model.today() + random.nextInt(3) - (random.nextInt(30) == 0 ? 1 : 0);
-        int pay = record + random.nextInt(3) - (random.nextInt(30) == 0 ? 1 : 0);
+        int pay = record + random.nextInt(4) - (random.nextInt(30) == 0 ? 1 : 0);
         int a = kind == 1 ? value(1, 3) : value(1, random.nextInt(4) == 0 ? 1000 : 10);
         int b = kind == 1 ? value(1, 3) : kind == 2 ? value(1, random.nextBoolean() ? 10 : 2) : value(0, 4);
         call("announce", kind, oneOf(SECURITIES), a, b, random.nextInt(30) == 0 ? -1 : upTo(mostUnits), record, pay);
     }
 
     private void elect() {
-        int event = oneOf(EVENTS);
+        List<Integer> open = model.openOptions();
+        int event = open.isEmpty() || random.nextInt(20) == 0 ? oneOf(EVENTS) : open.get(random.nextInt(open.size()));
         int account = oneOf(ACCOUNTS);
         String entitled = call("entitled", event, account);
         long most = entitled.contains("E") ? 3 : Long.parseLong(entitled);
@@ -151,8 +158,12 @@ public final class RandomRuns {
     }
 
     private void act() {
+        if (random.nextInt(8) == 0 && !model.openOptions().isEmpty()) {
+            elect();
+            return;
+        }
         int choice = random.nextInt(100);
-        if (choice < 30) {
+        if (choice < instructing) {
             instructPair();
         } else if (choice < 33) {
             instructOne();
@@ -164,8 +175,12 @@ public final class RandomRuns {
             call("endDay");
         } else if (choice < 60) {
             announce();
-        } else if (choice < 66) {
+        } else if (choice < 62) {
             elect();
+        } else if (choice < 66) {
+            for (int i = random.nextInt(3); i >= 0; i--) {
+                call("endDay");
+            }
         } else if (choice < 70) {
             call("link", oneOf(TRADES), oneOf(TRADES), random.nextBoolean());
         } else if (choice < 74) {
