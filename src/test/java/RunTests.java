@@ -11,7 +11,7 @@ import java.util.TreeSet;
  */
 public final class RunTests {
     private static final Class<?>[] TESTS = {AccountTests.class, InstructionTests.class, CycleTests.class,
-        DayTests.class, EventTests.class, ReadTests.class, FaceTests.class, RandomTests.class};
+        DayTests.class, EventTests.class, ReadTests.class, RefusalTests.class, RangeTests.class, EdgeTests.class, RoundingTests.class, StateTests.class, FaceTests.class, RandomTests.class};
     private static final int PROMISES = 46;
 
     private RunTests() {
