@@ -224,6 +224,36 @@ final class EdgeTests {
         statuses(ring, SETTLED, SETTLED, MATCHED);
     }
 
+    static void promise14_linksStayAsTheyAreWhenAnotherOneIsGone() {
+        SettlementRing ring = ring(0, 0);
+        for (int i = 0; i < 5; i++) {
+            trade(ring, 0, 1, i == 4 ? 500 : 1, 0, 0, 0);
+        }
+        ring.link(0, 1, false);
+        ring.link(2, 3, true);
+        ring.link(4, 2, true);
+        ring.cancel(0);
+        ring.cancel(1);
+        // WITH the trade 4, which can't be settled, is 2, and WITH that is 3
+        Checks.same("cycle", ring.cycle(), 1);
+        statuses(ring, CANCELLED, SETTLED, MATCHED, MATCHED, MATCHED);
+        ring.cancel(8);
+        ring.cancel(9);
+        Checks.same("cycle", ring.cycle(), 2);
+
+        SettlementRing other = ring(0, 0);
+        for (int i = 0; i < 4; i++) {
+            trade(other, 0, 1, i == 2 ? 500 : 1, 0, 0, 0);
+        }
+        other.link(0, 1, true);
+        other.link(2, 3, false);
+        other.cancel(0);
+        other.cancel(1);
+        // the trade 2 is BEHIND 3, so that 3 needs nothing
+        Checks.same("cycle", other.cycle(), 2);
+        statuses(other, CANCELLED, SETTLED, MATCHED, SETTLED);
+    }
+
     static void promise14_withWhatWillNotBeACandidate() {
         SettlementRing ring = ring(0, 0);
         trade(ring, 0, 1, 1, 0, 0, 0);
@@ -396,6 +426,17 @@ final class EdgeTests {
         trade(ring, 0, 1, 20, 50, 0, 0);
         Checks.same("cycle", ring.cycle(), 1);
         statuses(ring, MATCHED, SETTLED);
+    }
+
+    static void promise15_aCycleGoesByWhatIsThereNotByWhatBestFoundAhead() {
+        SettlementRing ring = ring(0, 0);
+        trade(ring, 0, 1, 5, 0, 0, 0);
+        Checks.same("best", ring.best(), 50);
+        Checks.same("bestByAll", ring.bestByAll(), 50);
+        ring.block(0, 0, 96);
+        Checks.same("cycle", ring.cycle(), 0);
+        statuses(ring, MATCHED);
+        Checks.same("units", ring.units(1, 0), 0);
     }
 
     static void promise16_noneIsWorthNothing() {
@@ -581,6 +622,57 @@ final class EdgeTests {
         Checks.isNot("settled, a debt of 21 being backed by one unit", isLent(40, 100, 21, 0));
     }
 
+    /** Whether account 0, with two units worth 40 each and a debt, lends one. */
+    private static boolean doesTheFirstAccountLend(int debt) {
+        SettlementRing ring = Town.accounts(0, 40, 100);
+        ring.issue(0, 0, 2, 40, 0);
+        ring.bring(0, -debt);
+        ring.lend(0);
+        trade(ring, 1, 2, 1, 0, 0, 0);
+        return ring.cycle() == 1;
+    }
+
+    static void promise15_whoLendsMustBeSoundTheFirstAccountToo() {
+        Checks.is("settled, a debt of 20 being backed by one unit", doesTheFirstAccountLend(20));
+        Checks.isNot("settled, a debt of 21 being backed by one unit", doesTheFirstAccountLend(21));
+    }
+
+    static void promise15_twentyLoansAtMostThoseOfTheFirstAccountCounted() {
+        SettlementRing ring = Town.accounts(0, 0, 1000, 0);
+        ring.issue(0, 0, 50, 1, 0);
+        Town.trade(ring, 0, 1, 25, 0);
+        ring.cycle();
+        ring.lend(0);
+        ring.lend(1);
+        for (int i = 0; i < 9; i++) {
+            lendOneEach(ring);
+        }
+        Checks.same("loans", ring.loans(), 18);
+        ring.lend(1);
+        trade(ring, 2, 3, 1, 0, 0, 0);
+        Checks.same("cycle that makes the 19th loan", ring.cycle(), 1);
+        Checks.same("loans", ring.loans(), 19);
+        ring.lend(1);
+        ring.block(0, 0, (int) ring.units(0, 0) - 1);
+        trade(ring, 2, 3, 2, 0, 0, 0);
+        Checks.same("cycle that would make the loans 20 and 21", ring.cycle(), 0);
+        Checks.same("loans", ring.loans(), 19);
+        ring.block(0, 0, (int) ring.units(0, 0) - 2);
+        Checks.same("cycle that makes the 20th loan", ring.cycle(), 1);
+        Checks.same("loans", ring.loans(), 20);
+        trade(ring, 2, 3, 1, 0, 0, 0);
+        Checks.same("cycle that would make the 21st loan", ring.cycle(), 0);
+        Checks.same("loans", ring.loans(), 20);
+    }
+
+    /** A trade of two units, one of which is borrowed from account 0 and one from account 1. */
+    private static void lendOneEach(SettlementRing ring) {
+        ring.block(0, 0, (int) ring.units(0, 0) - 1);
+        trade(ring, 2, 3, 2, 0, 0, 0);
+        Checks.same("cycle", ring.cycle(), 1);
+        ring.block(0, 0, 0);
+    }
+
     static void promise15_anUnsoundOneThatDoesNotLendForItDoesNotMatter() {
         SettlementRing ring = lenders(5, 5);
         ring.setPrice(0, 10);
@@ -662,6 +754,9 @@ final class EdgeTests {
         trade(ring, 0, 1, 10, 95, 0, 1);
         Checks.same("cycle, the receiver lacking cash", ring.cycle(), 0);
         Checks.same("tradeUnits", ring.tradeUnits(0), 10);
+        ring.block(0, 0, 90);
+        Checks.same("cycle, just 10 units being free", ring.cycle(), 0);
+        Checks.same("tradeUnits", ring.tradeUnits(0), 10);
         ring.block(0, 0, 91);
         ring.cycle();
         // 9 units for 85, of which 45 are backed, can't be paid either
@@ -691,6 +786,23 @@ final class EdgeTests {
             ring.cycle();
             Checks.same("tradeUnits, at the amount " + of[0], ring.tradeUnits(0), of[1]);
         }
+    }
+
+    static void promise15_noPartOfATradeThatALoanMadePossibleAsAWhole() {
+        SettlementRing ring = ring(0, 0, 1000, 0);
+        ring.issue(3, 0, 5, 2, 0);
+        ring.lend(3);
+        ring.block(0, 0, 90);
+        trade(ring, 0, 1, 10, 100, 0, 1);
+        Town.trade(ring, 1, 2, 1, 5, 500, 0, 0, 0);
+        // account 1 can pay the trade 0 as soon as the trade 1 is settled, but all units are free for it
+        Checks.same("cycle", ring.cycle(), 1);
+        Checks.same("loans", ring.loans(), 1);
+        statuses(ring, MATCHED, SETTLED);
+        Checks.same("tradeUnits", ring.tradeUnits(0), 10);
+        Checks.same("cycle", ring.cycle(), 1);
+        Checks.same("tradeUnits", ring.tradeUnits(0), 10);
+        Checks.same("units", ring.units(1, 0), 10);
     }
 
     static void promise15_partsSeeWhatWasSettledAhead() {
@@ -797,6 +909,11 @@ final class EdgeTests {
         Checks.same("causer of the first one", ring.causer(0), 0);
         Checks.same("causer of the last one", ring.causer(19), 1);
         Checks.same("fines, as each would owe itself", ring.endDay(), 0);
+        ring.hold(39);
+        // the trade 19 is the last one of the chain, and its receiver, account 1, holds it now
+        Checks.same("causer of the first one", ring.causer(0), 1);
+        ring.hold(38);
+        Checks.same("causer of the first one, both holding the last one", ring.causer(0), 0);
     }
 
     static void promise44_aChainWithAnEnd() {
@@ -900,6 +1017,30 @@ final class EdgeTests {
         Checks.same("endDay, given back", ring.endDay(), 0);
     }
 
+    static void promise18_eachLoanThatIsRecalledIsFinedByItsOwnUnits() {
+        SettlementRing ring = Town.accounts(1000, 0, 0, 0);
+        ring.issue(2, 0, 10, 10, 500);
+        Town.trade(ring, 2, 3, 4, 0);
+        ring.cycle();
+        ring.lend(2);
+        ring.lend(3);
+        trade(ring, 0, 1, 10, 0, 0, 0);
+        ring.cycle();
+        Checks.same("loan, by the account 2", ring.loan(0), 6);
+        Checks.same("loan, by the account 3", ring.loan(1), 4);
+        ring.recall(1);
+        Checks.same("endDay, one being recalled", ring.endDay(), 1);
+        Checks.same("ledger of account 2", ring.ledger(2), 0);
+        Checks.same("ledger of account 3", ring.ledger(3), 3);
+        Checks.same("ledger of the borrower", ring.ledger(0), -3);
+        ring.recall(0);
+        Checks.same("endDay, both being recalled", ring.endDay(), 2);
+        Checks.same("ledger of account 2", ring.ledger(2), 4);
+        Checks.same("ledger of account 3", ring.ledger(3), 6);
+        Checks.same("ledger of the borrower", ring.ledger(0), -10);
+        Checks.same("messages of the borrower", ring.messages(0), 5);
+    }
+
     // ---- events
 
     static void promise25_notedAtTheEndOfTheRecordDay() {
@@ -924,6 +1065,29 @@ final class EdgeTests {
         Checks.same("entitled", ring.entitled(0, 1), 0);
         Checks.same("entitledAnew", ring.entitledAnew(0, 1), 0);
         Checks.same("cash", ring.cash(1), 0);
+    }
+
+    static void promise26_entitledAnewOfEachSecurity() {
+        SettlementRing ring = Town.accounts(0, 0);
+        for (int i = 0; i < 4; i++) {
+            ring.issue(i % 2, 0, 10 + i, 1, 0);
+            Town.trade(ring, i % 2, 1 - i % 2, i, 1 + i, 0, 0, 0, 0);
+        }
+        for (int day = 0; day < 2; day++) {
+            for (int i = 0; i < 4; i++) {
+                ring.announce(SettlementRing.DIVIDEND, i, 1, 0, 0, day, day);
+            }
+            ring.endDay();
+            ring.cycle();
+        }
+        long[][] due = {{10, 0}, {0, 11}, {12, 0}, {0, 13}, {9, 1}, {2, 9}, {9, 3}, {4, 9}};
+        for (int event = 0; event < 8; event++) {
+            for (int account = 0; account < 2; account++) {
+                String of = "(" + event + ", " + account + ")";
+                Checks.same("entitled" + of, ring.entitled(event, account), due[event][account]);
+                Checks.same("entitledAnew" + of, ring.entitledAnew(event, account), due[event][account]);
+            }
+        }
     }
 
     static void promise24_electsFromTheRecordDayToThePayDay() {

@@ -151,6 +151,137 @@ final class StateTests {
         });
     }
 
+    static void promise22_goesBackFromAPartOfATradeAndASplit() {
+        SettlementRing ring = Town.accounts(0, 1000);
+        ring.issue(0, 0, 20, 1, 0);
+        ring.announce(SettlementRing.SPLIT, 0, 2, 1, 0, 0, 0);
+        Town.trade(ring, 0, 1, 0, 30, 90, 0, 0, 11);
+        ring.block(0, 0, 9);
+        ring.keep();
+        for (int i = 0; i < 2; i++) {
+            ring.cycle();
+            Checks.same("tradeUnits", ring.tradeUnits(0), 19);
+            Checks.same("tradeAmount", ring.tradeAmount(0), 57);
+            ring.endDay();
+            Checks.same("tradeUnits", ring.tradeUnits(0), 38);
+            ring.goBack();
+            Checks.same("tradeUnits", ring.tradeUnits(0), 30);
+            Checks.same("tradeAmount", ring.tradeAmount(0), 90);
+            Checks.same("age", ring.age(0), 0);
+            ring.block(0, 0, 10);
+            ring.cycle();
+            Checks.same("tradeUnits, 10 being fewer than the least part", ring.tradeUnits(0), 30);
+            Checks.same("block", ring.block(0, 0, 9), 10);
+        }
+    }
+
+    static void promise22_goesBackFromCancellingATradeWithLinks() {
+        SettlementRing ring = Town.accounts(0, 0);
+        ring.issue(0, 0, 20, 1, 0);
+        for (int i = 0; i < 4; i++) {
+            Town.trade(ring, 0, 1, i == 1 ? 500 : 1, 0);
+        }
+        ring.link(0, 1, false);
+        ring.link(2, 3, true);
+        ring.hold(6);
+        ring.keep();
+        ring.cancel(2);
+        ring.cancel(3);
+        Checks.same("cycle, the trade 0 having no link then", ring.cycle(), 1);
+        ring.goBack();
+        Checks.same("cycle, one BEHIND one that can not and one WITH one that is held", ring.cycle(), 0);
+        Checks.badState(ring, "link(0, 1, true)", () -> ring.link(0, 1, true));
+        Checks.badState(ring, "link(3, 2, true)", () -> ring.link(3, 2, true));
+        Checks.same("link", ring.link(1, 2, false), 3);
+    }
+
+    static void promise22_nothingIsLeftOfClaimsThatWereGoneBackFrom() {
+        SettlementRing ring = Town.accounts(0, 0);
+        ring.issue(0, 0, 20, 1, 0);
+        ring.announce(SettlementRing.DIVIDEND, 0, 10, 0, 0, 0, 1);
+        ring.keep();
+        ring.hold(2 * Town.trade(ring, 0, 1, 5, 0));
+        ring.endDay();
+        ring.endDay();
+        Checks.same("ledger, by a claim and two fines", ring.ledger(1), 52);
+        ring.goBack();
+        ring.endDay();
+        Town.trade(ring, 0, 1, 5, 0);
+        ring.cycle();
+        ring.endDay();
+        Checks.same("ledger, as no trade was due on the record day", ring.ledger(1), 0);
+        ring.goBack();
+        ring.hold(2 * Town.trade(ring, 0, 1, 3, 0));
+        ring.endDay();
+        ring.endDay();
+        Checks.same("ledger, by a claim and two fines", ring.ledger(1), 32);
+    }
+
+    static void promise22_nothingIsLeftOfEntitlementsThatWereGoneBackFrom() {
+        SettlementRing ring = Town.accounts(0);
+        ring.issue(0, 0, 20, 1, 0);
+        ring.announce(SettlementRing.OPTION, 0, 10, 1, 9, 0, 1);
+        ring.keep();
+        ring.open(NONE, false, 0, 0, 0);
+        Town.trade(ring, 0, 1, 5, 0);
+        ring.cycle();
+        ring.endDay();
+        ring.elect(1, 0, 5);
+        Checks.same("entitled", ring.entitled(0, 1), 5);
+        ring.goBack();
+        ring.endDay();
+        ring.open(NONE, false, 0, 0, 0);
+        Checks.same("entitled", ring.entitled(0, 1), 0);
+        Checks.same("entitledAnew", ring.entitledAnew(0, 1), 0);
+        Checks.same("elect", ring.elect(1, 0, 0), 0);
+        ring.endDay();
+        Checks.same("cash", ring.cash(0), 140);
+        Checks.same("cash", ring.cash(1), 0);
+        Checks.same("units", ring.units(1, 0), 0);
+    }
+
+    static void promise22_anAccountOpenedAgainIsAsNew() {
+        SettlementRing ring = Town.accounts(100, 0);
+        ring.issue(0, 1, 20, 1, 0);
+        ring.keep();
+        ring.open(0, true, 1, 500, 60);
+        ring.lend(2);
+        ring.relieve(2);
+        Town.trade(ring, 0, 2, 6, 30);
+        Town.trade(ring, 1, 0, 2, 0);
+        ring.bring(1, 100);
+        ring.cycle();
+        ring.block(2, 0, 1);
+        ring.endDay();
+        ring.goBack();
+        Checks.same("open", ring.open(NONE, false, 2, 7, 0), 2);
+        Checks.same("cash", ring.cash(2), 7);
+        Checks.same("limit", ring.limit(2), 0);
+        Checks.same("units", ring.units(2, 0), 0);
+        Checks.same("pledged", ring.pledged(2), 0);
+        Checks.same("ledger", ring.ledger(2), 0);
+        Checks.is("lend", ring.lend(2));
+        Checks.is("relieve", ring.relieve(2));
+        Checks.same("block", ring.block(2, 0, 0), 0);
+        Checks.same("open with it as the custodian", ring.open(2, true, 0, 0, 0), 3);
+    }
+
+    static void promise22_anInstructionGivenAgainIsAsNew() {
+        SettlementRing ring = Town.accounts(0, 0, 0);
+        ring.issue(0, 0, 20, 1, 0);
+        ring.keep();
+        ring.hold(2 * Town.trade(ring, 0, 1, 0, 5, 9, 0, 7, 3));
+        ring.cancel(0);
+        Town.days(ring, 2);
+        ring.goBack();
+        Town.trade(ring, 0, 2, 4, 0);
+        Checks.same("age", ring.age(0), 0);
+        Checks.same("tradeUnits", ring.tradeUnits(0), 4);
+        Checks.isNot("cancel by the receiver, as the deliverer did not ask", ring.cancel(1));
+        Checks.same("cycle, as it is not held", ring.cycle(), 1);
+        Checks.same("units", ring.units(2, 0), 4);
+    }
+
     static void promise22_goesBackFromManyDays() {
         play(ring -> {
             Town.days(ring, 10);
