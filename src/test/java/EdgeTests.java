@@ -1041,6 +1041,33 @@ final class EdgeTests {
         Checks.same("messages of the borrower", ring.messages(0), 5);
     }
 
+    static void promise36_theLedgerNeverTouchesCash() {
+        SettlementRing ring = ring(0, 10, 0);
+        // a fine a day, a claim of 1000, and a buy-in of 50
+        trade(ring, 1, 2, 5, 0, 0, 0);
+        ring.announce(SettlementRing.DIVIDEND, 0, 200, 0, 0, 0, 0);
+        ring.endDay();
+        Checks.same("ledger", ring.ledger(1), -1001);
+        Town.days(ring, 4);
+        Checks.same("ledger", ring.ledger(1), -1055);
+        Checks.same("ledger", ring.ledger(2), 1055);
+        Checks.same("cash", ring.cash(1), 10);
+        Checks.same("cash", ring.cash(2), 0);
+        Checks.is("isSound, whatever the ledger", ring.isSound(1));
+    }
+
+    static void promise36_whatOneIsOwedAnotherOneOwes() {
+        SettlementRing ring = Town.busy();
+        for (int day = 0; day < 10; day++) {
+            ring.endDay();
+            long all = 0;
+            for (int i = 0; i < 6; i++) {
+                all += ring.ledger(i);
+            }
+            Checks.same("all ledgers together", all, 0);
+        }
+    }
+
     // ---- events
 
     static void promise25_notedAtTheEndOfTheRecordDay() {

@@ -62,7 +62,23 @@ final class RefusalTests {
             }
             isLast = !next(chosen, args);
         }
+        tryEachAlone(ring, whenFine, name, args);
         return ring;
+    }
+
+    /** Each wrong value among fine ones, those far outside of a range of calls with many arguments, too. */
+    private static void tryEachAlone(SettlementRing ring, String whenFine, String name, Arg[] args) {
+        Object[] values = new Object[args.length];
+        for (int i = 0; i < args.length; i++) {
+            values[i] = args[i].fine;
+        }
+        for (int i = 0; i < args.length; i++) {
+            for (Object wrong : args[i].wrong) {
+                values[i] = wrong;
+                Face.answers(ring, first(whenFine, args[i].reason), name, values);
+            }
+            values[i] = args[i].fine;
+        }
     }
 
     /** Which of two exceptions, or none, is named first in each throws clause. */
