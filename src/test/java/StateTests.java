@@ -266,6 +266,20 @@ final class StateTests {
         Checks.same("open with it as the custodian", ring.open(2, true, 0, 0, 0), 3);
     }
 
+    /** The document says of messages only that they are not gone back from, whatever their account. */
+    static void promise22_whatWasToldUnderANumberStaysTold() {
+        SettlementRing ring = Town.accounts(0, 0);
+        ring.issue(0, 0, 20, 1, 0);
+        ring.keep();
+        ring.open(NONE, false, 0, 0, 0);
+        Town.trade(ring, 0, 2, 6, 0);
+        Checks.same("messages", ring.messages(2), 1);
+        ring.goBack();
+        Checks.noSuch(ring, "messages(2)", () -> ring.messages(2));
+        ring.open(NONE, false, 0, 0, 0);
+        Checks.same("messages", ring.messages(2), 1);
+    }
+
     static void promise22_anInstructionGivenAgainIsAsNew() {
         SettlementRing ring = Town.accounts(0, 0, 0);
         ring.issue(0, 0, 20, 1, 0);
