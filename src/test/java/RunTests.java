@@ -6,12 +6,13 @@ import java.util.Comparator;
 import java.util.TreeSet;
 
 /**
- * Runs each static method of the test classes whose name begins with 'promise' and a number or with
- * 'rule'. The arguments are how many tests passed and failed before, which are counted with its own.
+ * Runs each static method of the test classes whose name begins with 'promise' and a number, with 'rule'
+ * or with 'readme'. The arguments are how many tests passed and failed before, which are counted with its own.
  */
 public final class RunTests {
-    private static final Class<?>[] TESTS = {AccountTests.class, InstructionTests.class, CycleTests.class,
-        DayTests.class, EventTests.class, ReadTests.class, RefusalTests.class, RangeTests.class, EdgeTests.class, RoundingTests.class, StateTests.class, FaceTests.class, RandomTests.class};
+    static final Class<?>[] TESTS = {AccountTests.class, InstructionTests.class, CycleTests.class, DayTests.class,
+        EventTests.class, ReadTests.class, RefusalTests.class, RangeTests.class, EdgeTests.class,
+        RoundingTests.class, StateTests.class, FaceTests.class, ReadmeTests.class, RandomTests.class};
     private static final int PROMISES = 46;
 
     private RunTests() {
@@ -50,7 +51,7 @@ public final class RunTests {
     private static Method[] testsOf(Class<?> tests) {
         return Arrays.stream(tests.getDeclaredMethods())
                 .filter(method -> Modifier.isStatic(method.getModifiers()) && method.getParameterCount() == 0)
-                .filter(method -> method.getName().matches("(promise\\d\\d|rule).*"))
+                .filter(method -> method.getName().matches("(promise\\d\\d|rule|readme).*"))
                 .sorted(Comparator.comparing(Method::getName))
                 .toArray(Method[]::new);
     }
