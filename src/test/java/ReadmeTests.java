@@ -4,6 +4,7 @@ import java.lang.reflect.Modifier;
 import java.nio.charset.StandardCharsets;
 import java.nio.file.Files;
 import java.nio.file.Path;
+import java.nio.file.attribute.PosixFilePermission;
 import java.util.ArrayList;
 import java.util.Arrays;
 import java.util.List;
@@ -15,8 +16,10 @@ import java.util.regex.Pattern;
 final class ReadmeTests {
     private static final Path README = Path.of("README.md");
     private static final Path EXAMPLE = Path.of("src", "example", "java", "Example.java");
-    private static final Pattern BLOCK = Pattern.compile("^```(\\w*)\n(.*?)^```\n", Pattern.MULTILINE | Pattern.DOTALL);
-    private static final Pattern ROW = Pattern.compile("^\\| `(\\w+ \\w+\\(.*?\\))` \\| (.*) \\| (.*) \\|$", Pattern.MULTILINE);
+    private static final Pattern BLOCK =
+            Pattern.compile("^```(\\w*)\n(.*?)^```\n", Pattern.MULTILINE | Pattern.DOTALL);
+    private static final Pattern ROW =
+            Pattern.compile("^\\| `(\\w+ \\w+\\(.*?\\))` \\| (.*) \\| (.*) \\|$", Pattern.MULTILINE);
     private static final Pattern REASON = Pattern.compile("(?:^|\\. )(Index|Argument|State)(?=[.:])");
 
     private ReadmeTests() {
@@ -115,6 +118,7 @@ final class ReadmeTests {
             }
         }
         Checks.same("commands that were run", run, 3);
-        Checks.is(".ci/run is executable", Files.isExecutable(Path.of(".ci", "run")));
+        Checks.is(".ci/run is executable",
+                Files.getPosixFilePermissions(Path.of(".ci", "run")).contains(PosixFilePermission.OWNER_EXECUTE));
     }
 }
